@@ -99,8 +99,8 @@ public final class BrinePans {
             case 3: return ground.skyOf(now.day);
             case 4: return now.open;
             case 5: return now.heap;
-            case 6: return now.waterOfAll();
-            case 7: return now.saltOfAll();
+            case 6: return now.sumOf(now.water);
+            case 7: return now.sumOf(now.salt);
             case 8: return now.crustOfAll();
             case 9: return now.rakeable();
             case 10: return acts.count;
@@ -638,18 +638,11 @@ public final class BrinePans {
             return ground.depthOf(pan) - water[pan];
         }
 
-        private int waterOfAll() {
+        /** Of water or of salt, pan by pan. */
+        private int sumOf(int[] row) {
             int sum = 0;
             for (int i = 0; i < ground.pans; i++) {
-                sum += water[i];
-            }
-            return sum;
-        }
-
-        private int saltOfAll() {
-            int sum = 0;
-            for (int i = 0; i < ground.pans; i++) {
-                sum += salt[i];
+                sum += row[i];
             }
             return sum;
         }

@@ -194,6 +194,11 @@ public final class ActsTest {
         Check.due("rake(5)", x.rake(5), BrinePans.UNKNOWN);
         Check.due("rake(-1)", x.rake(-1), BrinePans.UNKNOWN);
         Check.due("acts", x.about(10), 3);
+        x = Check.made("MN061N000S1");
+        x.let(0, 1);
+        x.day();
+        Check.due("that can be raked", x.about(9), 2);
+        Check.due("1 of crust", x.rake(1), 1);
     }
 
     private static void undo() {

@@ -85,6 +85,15 @@ public final class DaysToComeTest {
         // 2 of 6 inches are the most there is no room for, so none it is: 8 and 40 less 24
         Check.due("no room", x.best(1, 0), 24);
         Check.due("no room", x.best(1, 1), 0);
+        x = Check.made("MN312N100S1");
+        // a leak takes 8 of 20, if its one inch is not let on
+        Check.due("one inch of one", x.best(1, 0), 20);
+        Check.due("one inch of one", x.best(1, 1), 1);
+        x = Check.made("MN312N100N312N100S1");
+        Check.due("pan 2 is like pan 0", x.best(1, 0), 32);
+        Check.due("pan 2 is like pan 0", x.best(1, 1), 1);
+        x = Check.made("MN000N000N000N000N312N100S1");
+        Check.due("the last gate", x.best(1, 1), 41);
         Check.due("best(0, 0)", x.best(0, 0), BrinePans.BAD);
         Check.due("best(10, 0)", x.best(10, 0), BrinePans.BAD);
         Check.due("best(1, -1)", x.best(1, -1), BrinePans.BAD);
@@ -99,6 +108,7 @@ public final class DaysToComeTest {
         Check.due("gates(1, 49)", x.gates(1, 49), 1);
         Check.due("gates(1, 56)", x.gates(1, 56), 1);
         Check.due("gates(1, 57)", x.gates(1, 57), BrinePans.NONE);
+        Check.due("gates(1, 0)", x.gates(1, 0), 0);
         Check.due("gates(9, 80)", x.gates(9, 80), 0);
         Check.due("gates(9, 81)", x.gates(9, 81), BrinePans.NONE);
         x = Check.made("MN064N204N064N204S2");
@@ -134,6 +144,7 @@ public final class DaysToComeTest {
         dueJudged(x, 1, 291, 0);
         dueJudged(x, 1, 301, none);
         dueJudged(x, 1, 302, 0);
+        dueJudged(x, 2, 301301, none);
         dueJudged(x, 1, 400, none);
         dueJudged(x, 1, 401, 0);
         dueJudged(x, 1, 403, 0);
@@ -197,6 +208,17 @@ public final class DaysToComeTest {
         dueShare(x, 0, -16, 3);
         dueShare(x, 1, 26, 3);
         dueShare(x, 2, 26, 3);
+        // pans that hold nothing, and to which nothing comes, take no part
+        String more = "";
+        for (int pans = 4; pans <= 6; pans++) {
+            more += "N000";
+            x = Check.made("MN010N001N001" + more);
+            x.turn(0);
+            x.turn(1);
+            dueShare(x, 0, -16, 3);
+            dueShare(x, 2, 26, 3);
+            dueShare(x, pans - 1, 0, 1);
+        }
         x = Check.made("MN000N000");
         dueShare(x, 0, 0, 1);
         Check.due("share(2, true)", x.share(2, true), BrinePans.UNKNOWN);

@@ -152,6 +152,18 @@ public final class MarshTest {
         Check.due("the text stays", x.about(12), 5);
         Check.due("the marsh stays behind a wipe", x.wipe() + x.pan(0, 2), 65);
         Check.due("the seed stays", x.seed(0), 77);
+        x = Check.made("MN019N060S1");
+        x.day();
+        x.turn(0);
+        Check.due("the same marsh anew", x.marsh(), 21);
+        Check.due("no acts", x.about(10), 0);
+        Check.due("nothing to undo", x.undo(), BrinePans.LATE);
+        Check.dueWater("as told", x, 1, 6);
+        Check.write(x, "M");
+        Check.due("a marsh of nothing", x.marsh(), 0);
+        Check.due("no pan", x.pan(0, 1), BrinePans.UNKNOWN);
+        Check.due("no gate", x.turn(0), BrinePans.UNKNOWN);
+        Check.due("no crust", x.about(8) + x.about(6) + x.about(7) + x.about(9), 0);
     }
 
     private static int lateMarsh(BrinePans x) {
