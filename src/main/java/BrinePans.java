@@ -262,11 +262,10 @@ public final class BrinePans {
         for (int set = 0; set < sets; set++) {
             if ((set >> pan & 1) == 0) {
                 int before = Integer.bitCount(set);
-                int orders = FACTORIALS[before] * FACTORIALS[ground.pans - 1 - before];
-                sum += orders * (crustOfSets[set | 1 << pan] - crustOfSets[set]);
+                sum += orders(before, ground.pans - 1 - before) * (crustOfSets[set | 1 << pan] - crustOfSets[set]);
             }
         }
-        return told(sum, FACTORIALS[ground.pans], upper);
+        return told(sum, orders(ground.pans, 0), upper);
     }
 
     // ---- found
@@ -426,6 +425,14 @@ public final class BrinePans {
             && gains[2 * (pair ^ 1) + 1] <= gains[2 * pair + 1];
     }
 
+    /** In how many orders so many pans come before another one, and so many behind it. */
+    private static int orders(int before, int behind) {
+        if (!isFromTo(before, 0, MAX_PANS) || !isFromTo(behind, 0, MAX_PANS)) {
+            return 0;
+        }
+        return FACTORIALS[before] * FACTORIALS[behind];
+    }
+
     private static boolean isFromTo(int n, int least, int most) {
         return n >= least && n <= most;
     }
@@ -528,8 +535,8 @@ public final class BrinePans {
                 int figure = letters[at] - '0';
                 switch (step) {
                     case KIND: ground.addPan(figure); break;
-                    case WATER: pans.water[ground.pans - 1] = figure; break;
-                    case SALT: pans.salt[ground.pans - 1] = 10 * figure; break;
+                    case WATER: pans.lay(pans.water, ground.pans - 1, figure); break;
+                    case SALT: pans.lay(pans.salt, ground.pans - 1, 10 * figure); break;
                     case SUN: ground.addSky(figure); break;
                     case RAIN: ground.addSky(-figure); break;
                     default: break;
@@ -604,6 +611,13 @@ public final class BrinePans {
             open = 0;
             heap = 0;
             day = 0;
+        }
+
+        /** What the text tells of a pan's water, or of its salt. */
+        private void lay(int[] row, int pan, int much) {
+            if (ground.hasPan(pan)) {
+                row[pan] = much;
+            }
         }
 
         private void copy(Pans other) {

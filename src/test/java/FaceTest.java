@@ -52,6 +52,11 @@ public final class FaceTest {
                 Check.due("no name of a public one: " + m.getName(), publicNames.contains(m.getName()) ? 1 : 0, 0);
             }
         }
+        for (Class<?> inside : BrinePans.class.getDeclaredClasses()) {
+            for (Method m : inside.getDeclaredMethods()) {
+                Check.due("no name of a public one: " + m, publicNames.contains(m.getName()) ? 1 : 0, 0);
+            }
+        }
     }
 
     private static void hidden(String what, int modifiers) {

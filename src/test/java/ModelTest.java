@@ -2,14 +2,16 @@ import java.util.Random;
 
 /** All promises: long runs of calls by chance (from fixed seeds), against the model's answers. */
 public final class ModelTest {
-    private static final int RUNS = 1500;
-    private static final int CALLS = 300;
+    private static final int RUNS = 2000;
+    /** A last text, and what is asked at the end, come behind them: together no more than 512. */
+    private static final int CALLS = 450;
     private static final int[] WILD = {-1, 7, 10, 31, 36, 100, 256, 1000, Integer.MAX_VALUE, Integer.MIN_VALUE};
 
     private final Random chance;
     private final BrinePans x = new BrinePans();
     private final Model model = new Model();
     private String call = "";
+    private int calls = 0;
 
     private ModelTest(long seed) {
         chance = new Random(seed);
@@ -23,7 +25,7 @@ public final class ModelTest {
     }
 
     private void run(int run) {
-        for (int i = 0; i < CALLS; i++) {
+        while (calls < CALLS) {
             oneCall(run);
         }
         for (int what = 0; what <= 12; what++) {
@@ -37,6 +39,7 @@ public final class ModelTest {
     }
 
     private void due(int run, String name, long got, long want) {
+        calls++;
         Check.due("run " + run + ": " + name + call, got, want);
     }
 

@@ -16,6 +16,7 @@ public final class Promise08Test {
         noSky();
         rain();
         rainLeavesSalt();
+        eachPanOfSix();
         skiesComeRound();
         inThisOrder();
         crustThen();
@@ -202,6 +203,13 @@ public final class Promise08Test {
         BrinePans x = dayOf("MN059N105R4");
         Check.dueSalt("behind rain", x, 90, 50);
         Check.due("crust", x.about(8), 42 + 18);
+    }
+
+    private static void eachPanOfSix() {
+        Check.sentence("promise 8, (c) each PAN, of six");
+        Check.dueWater("a rain", dayOf("MN010N110N210N310N010N110R2"), 3, 3, 3, 2, 3, 3);
+        Check.dueWater("a sun", dayOf("MN060N160N260N360N060N160S2"), 4, 4, 3, 3, 4, 4);
+        Check.dueWater("six that leak", dayOf("MN360N360N360N360N360N360"), 5, 5, 5, 5, 5, 5);
     }
 
     private static void skiesComeRound() {

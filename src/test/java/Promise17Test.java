@@ -6,6 +6,7 @@ public final class Promise17Test {
         noneToLet();
         oneInch();
         nineInches();
+        waterAlone();
         asItCanBe();
         notFromTheLast();
         ofLikeOnesNone();
@@ -60,6 +61,15 @@ public final class Promise17Test {
         BrinePans x = Check.made("MN155N103R4");
         x.sea(4);
         dueBest(x, 1, 16, 9);
+    }
+
+    private static void waterAlone() {
+        Check.sentence("promise 17, inches with which no SALT goes are LET on too");
+        // 1 of salt in 2 inches of pan 1: it stays there when 1 inch is let on, and lies there behind a day
+        BrinePans x = Check.made("MN061N010N000S1");
+        Check.due("let(0, 1)", x.let(0, 1), 1);
+        x.sea(1);
+        dueBest(x, 1, 1, 11);
     }
 
     private static void asItCanBe() {
