@@ -203,16 +203,16 @@ public final class ActsTest {
 
     private static void undo() {
         BrinePans x = Check.made("MN019N020S1");
-        String[] seen = new String[6];
+        String[] held = new String[6];
         for (int act = 0; act < 6; act++) {
-            seen[act] = Check.seen(x);
+            held[act] = Check.held(x);
             doAct(x, act);
         }
         x.sea(10);
         x.rake(9);
         for (int act = 5; act >= 0; act--) {
             Check.due("undo()", x.undo(), act);
-            Check.due("as before act " + act, Check.seen(x).equals(seen[act]) ? 1 : 0, 1);
+            Check.dueText("as before act " + act, Check.held(x), held[act]);
         }
         Check.due("undo() of none", x.undo(), BrinePans.LATE);
     }

@@ -7,7 +7,8 @@ import java.util.Random;
 public final class StormTest {
     private static final int[] EDGES = {Integer.MIN_VALUE, -1000, -33, -32, -10, -9, -2, -1, 0, 1, 2, 3, 4, 5, 6, 7, 8,
         9, 10, 12, 13, 14, 30, 31, 32, 33, 36, 64, 99, 100, 255, 256, 999, 1000, Integer.MAX_VALUE};
-    private static final String[] TEXTS = {"", "M", "MS4", "MN069", "MN019N160S1", "MN160N260N360N060N150N009S1R4S4R1S0"};
+    private static final String[] TEXTS = {"", "M", "MS4", "MN069", "MN019N160S1",
+        "MN160N260N360N060N150N009S1R4S4R1S0"};
     private static final int RUNS = 3000;
     private static final int CALLS = 400;
 
