@@ -91,7 +91,7 @@ public final class ModelTest {
 
     private void act(int run, int which) {
         int a = some(6);
-        int b = some(4);
+        int b = some(chance.nextInt(3) == 0 ? 9 : 4);
         call = "(" + a + ", " + b + ")";
         switch (which) {
             case 1: case 2: case 3: due(run, "day", x.day(), model.day()); break;
